@@ -84,6 +84,7 @@ public final class PavedBan {
             kept[i] = false;
         }
         ways.startAnew();
+        choice.startAnew();
         typed.length = 0;
         return items;
     }
@@ -210,7 +211,7 @@ public final class PavedBan {
         if (what < 0 || what > 1 || f != -1 && !isFamily(f)) {
             return BAD;
         }
-        choice.seekOneEach(now.stones, what == 1);
+        choice.seek(what == 0 ? Choice.ONE_BY_COSTS : Choice.ONE_BY_LONGEST, now.stones);
         return chosen(f);
     }
 
@@ -218,7 +219,7 @@ public final class PavedBan {
         if (p != -1 && !isPiece(p)) {
             return BAD;
         }
-        choice.seekAll(now.stones);
+        choice.seek(Choice.ALL, now.stones);
         return chosen(p);
     }
 
@@ -692,9 +693,9 @@ public final class PavedBan {
             start = at;
             if (at >= typed.length) {
                 sort = END;
-            } else if (isLetter(at)) {
+            } else if (isLetter(typed.bytes[at])) {
                 takeWord();
-            } else if (isDigit(at)) {
+            } else if (isDigit(typed.bytes[at])) {
                 takeNumber();
             } else {
                 sort = typed.bytes[at] == ';' ? STOP : NO_TOKEN;
@@ -703,7 +704,7 @@ public final class PavedBan {
         }
 
         private void takeWord() {
-            while (isLetter(at)) {
+            while (at < typed.length && isLetter(typed.bytes[at])) {
                 at++;
             }
             if (spells("piece")) {
@@ -721,7 +722,7 @@ public final class PavedBan {
 
         private void takeNumber() {
             value = 0;
-            while (isDigit(at)) {
+            while (at < typed.length && isDigit(typed.bytes[at])) {
                 // Held down, for a long row of digits would wrap around.
                 value = Math.min(value * 10 + typed.bytes[at] - '0', HIGHEST + 1);
                 at++;
@@ -730,12 +731,12 @@ public final class PavedBan {
             sort = zeroAhead || value > HIGHEST ? NO_TOKEN : NUMBER;
         }
 
-        private boolean isLetter(int i) {
-            return i < typed.length && typed.bytes[i] >= 'a' && typed.bytes[i] <= 'z';
+        private static boolean isLetter(byte sign) {
+            return sign >= 'a' && sign <= 'z';
         }
 
-        private boolean isDigit(int i) {
-            return i < typed.length && typed.bytes[i] >= '0' && typed.bytes[i] <= '9';
+        private static boolean isDigit(byte sign) {
+            return sign >= '0' && sign <= '9';
         }
 
         /** Whether the bytes from start to at are this word. */
@@ -861,11 +862,15 @@ public final class PavedBan {
         }
     }
 
-    /** Who should pave what: one each, or all. A choice once left out for being no better stays out, so the first wins. */
+    /** Who should pave what: one each, or all. Only what is better takes the best's place, so the first of several wins. */
     private static final class Choice {
+        static final int ONE_BY_COSTS = 0, ONE_BY_LONGEST = 1, ALL = 2;
+        private static final int NOTHING = -1;
+
         private final Town town;
         private final Ways ways;
-        private boolean byLongest = false;
+        /** What was sought last, and by which stones: asked again, it need not be sought again. */
+        private int sought = NOTHING;
         private int stones = 0;
         /** FAR: there is no choice. */
         int best = FAR;
@@ -879,20 +884,36 @@ public final class PavedBan {
             this.ways = ways;
         }
 
-        void seekOneEach(int stonesNow, boolean longest) {
-            byLongest = longest;
-            best = FAR;
-            tryFamily(0, stonesNow, 0);
+        void startAnew() {
+            sought = NOTHING;
         }
 
-        void seekAll(int stonesNow) {
+        void seek(int what, int stonesNow) {
+            if (sought == what && stones == stonesNow) {
+                return;
+            }
+            sought = what;
             stones = stonesNow;
             best = FAR;
-            Arrays.fill(given, 0);
-            tryPiece(0);
+            if (what == ALL) {
+                seekAll();
+            } else {
+                tryFamily(0, stones, 0);
+            }
         }
 
-        /** Families below f have their pieces, worth so much. */
+        private void seekAll() {
+            Arrays.fill(given, 0);
+            int costs = 0;
+            for (int f = 0; f < town.families; f++) {
+                costs += ways.cost(f, 0);
+            }
+            if (costs < best) {
+                tryPiece(0, costs);
+            }
+        }
+
+        /** Families below f have their pieces, and are worth so much by them. */
         private void tryFamily(int f, int taken, int worth) {
             if (f >= town.families) {
                 take(worth);
@@ -900,27 +921,23 @@ public final class PavedBan {
             }
             for (int p = 0; p < town.pieces; p++) {
                 int bit = 1 << p;
-                int more = (taken & bit) == 0 ? worthWith(worth, f, bit) : FAR;
-                if (more < best) {
+                int then = (taken & bit) == 0 ? worthWith(worth, f, bit) : FAR;
+                if (then < best) {
                     tried[f] = p;
-                    tryFamily(f + 1, taken | bit, more);
+                    tryFamily(f + 1, taken | bit, then);
                 }
             }
         }
 
         private int worthWith(int worth, int f, int banned) {
-            if (byLongest) {
+            if (sought == ONE_BY_LONGEST) {
                 return Math.max(worth, ways.yards(f, banned));
             }
             return worth + ways.cost(f, banned);
         }
 
-        /** Pieces below p are given; costs never fall by giving more, so what is no better now never will be. */
-        private void tryPiece(int p) {
-            int costs = costsOfGiven();
-            if (costs >= best) {
-                return;
-            }
+        /** Pieces below p are given, at these costs; they never fall by giving more, so what is no better now never will be. */
+        private void tryPiece(int p, int costs) {
             if (p >= town.pieces) {
                 take(costs);
                 return;
@@ -928,23 +945,18 @@ public final class PavedBan {
             int bit = 1 << p;
             if ((stones & bit) != 0) {
                 tried[p] = LACKING;
-                tryPiece(p + 1);
+                tryPiece(p + 1, costs);
                 return;
             }
             for (int f = 0; f < town.families; f++) {
-                tried[p] = f;
-                given[f] |= bit;
-                tryPiece(p + 1);
-                given[f] &= ~bit;
+                int then = costs - ways.cost(f, given[f]) + ways.cost(f, given[f] | bit);
+                if (then < best) {
+                    tried[p] = f;
+                    given[f] |= bit;
+                    tryPiece(p + 1, then);
+                    given[f] &= ~bit;
+                }
             }
-        }
-
-        private int costsOfGiven() {
-            int costs = 0;
-            for (int f = 0; f < town.families; f++) {
-                costs += ways.cost(f, given[f]);
-            }
-            return costs;
         }
 
         private void take(int worth) {
