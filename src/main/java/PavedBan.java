@@ -862,7 +862,7 @@ public final class PavedBan {
         }
     }
 
-    /** Who should pave what: one each, or all. Only what is better takes the best's place, so the first of several wins. */
+    /** Who should pave what. Only what is better takes the best's place, so the first of several wins. */
     private static final class Choice {
         static final int ONE_BY_COSTS = 0, ONE_BY_LONGEST = 1, ALL = 2;
         private static final int NOTHING = -1;
@@ -936,7 +936,7 @@ public final class PavedBan {
             return worth + ways.cost(f, banned);
         }
 
-        /** Pieces below p are given, at these costs; they never fall by giving more, so what is no better now never will be. */
+        /** Pieces below p are given, at these costs, which never fall by giving more: no better now, no better then. */
         private void tryPiece(int p, int costs) {
             if (p >= town.pieces) {
                 take(costs);

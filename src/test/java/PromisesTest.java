@@ -132,6 +132,7 @@ public final class PromisesTest {
         fault("5", 0);
         fault("pieces 0 1 1;", 0);
         fault("piec", 0);
+        fault("piecez 0 1 1;", 0);
         fault("Piece 0 1 1;", 0);
         fault("piecE 0 1 1;", 0);
         fault("pieceE 0 1 1;", 5);
@@ -513,6 +514,9 @@ public final class PromisesTest {
         x.stone(0, 1);
         due("stones are flooded, too", x.shut(0, 0), 3);
         due("stones are flooded, too", x.shut(0, 1), 10);
+        PavedBan rare = of("piece 0 1 1;family 0 1 1;flood 0 1;");
+        due("one in ten", rare.shut(0, 0), 1);
+        due("one in ten", rare.shut(0, 1), 10);
         PavedBan y = of("piece 0 1 1;".repeat(8) + "family 0 1 1;");
         long upper = 1;
         for (int p = 0; p < 8; p++) {
