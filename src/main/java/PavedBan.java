@@ -580,7 +580,16 @@ public final class PavedBan {
                 if (sort == END) {
                     return items;
                 }
-                if (!readItem()) {
+                boolean good = false;
+                switch (sort) {
+                    case PIECE: good = readPiece(); break;
+                    case FAMILY: good = readFamily(); break;
+                    case PAVED: good = readPaved(); break;
+                    case STONE: good = readStone(); break;
+                    case FLOOD: good = readFlood(); break;
+                    default: break;
+                }
+                if (!good) {
                     break;
                 }
             }
@@ -588,17 +597,6 @@ public final class PavedBan {
         }
 
         /** Answers false with the token at fault being the last that was read; so do those below. */
-        private boolean readItem() {
-            switch (sort) {
-                case PIECE: return readPiece();
-                case FAMILY: return readFamily();
-                case PAVED: return readPaved();
-                case STONE: return readStone();
-                case FLOOD: return readFlood();
-                default: return false;
-            }
-        }
-
         private boolean readPiece() {
             if (draft.pieces >= MOST_PIECES) {
                 return false;
@@ -895,22 +893,24 @@ public final class PavedBan {
             sought = what;
             stones = stonesNow;
             best = FAR;
-            if (what == ALL) {
-                seekAll();
-            } else {
+            if (what != ALL) {
                 tryFamily(0, stones, 0);
+                return;
+            }
+            Arrays.fill(given, 0);
+            int costs = costsOfNone();
+            if (costs < best) {
+                tryPiece(0, costs);
             }
         }
 
-        private void seekAll() {
-            Arrays.fill(given, 0);
+        /** What all cost while nobody has paved anything. */
+        private int costsOfNone() {
             int costs = 0;
             for (int f = 0; f < town.families; f++) {
                 costs += ways.cost(f, 0);
             }
-            if (costs < best) {
-                tryPiece(0, costs);
-            }
+            return costs;
         }
 
         /** Families below f have their pieces, and are worth so much by them. */
@@ -933,7 +933,7 @@ public final class PavedBan {
             if (sought == ONE_BY_LONGEST) {
                 return Math.max(worth, ways.yards(f, banned));
             }
-            return worth + ways.cost(f, banned);
+            return worth + ways.yards(f, banned) * town.times[f];
         }
 
         /** Pieces below p are given, at these costs, which never fall by giving more: no better now, no better then. */
