@@ -75,6 +75,9 @@ final class WayEdges {
         expect(y, 1, 5, 3, 1, 0);
         PavedBan z = Check.of("piece 0 5 8;piece 0 1 2;piece 1 4 3;piece 1 3 3;piece 4 5 3;piece 3 5 3;family 0 5 1;");
         expect(z, 0, 0, 5);
+        // Piece 1 is not at place 3, though a way by it from 0 would be as short.
+        PavedBan apart = Check.of("piece 0 5 1;piece 1 2 5;piece 3 4 3;piece 4 5 3;family 3 5 1;");
+        expect(apart, 0, 3, 4, 5);
     }
 
     private static void expect(PavedBan x, int f, int... places) {
