@@ -201,6 +201,8 @@ final class PavingEdges {
         PavedBan none = Check.of("piece 0 1 5;family 0 1 3;");
         Check.due("none", none.all(-1), Check.NONE);
         Check.due("none, of a piece", none.all(0), Check.NONE);
+        // The document leaves room here: NONE stands ahead of a stone's -5, for there is no "then".
+        Check.due("none, of a stone", Check.of("piece 0 1 5;piece 2 3 1;family 0 1 3;stone 1;").all(1), Check.NONE);
         Check.promise(16, "BAD.");
         for (int p : new int[] {-2, 8, Check.LOW, Check.HIGH}) {
             Check.bad("all " + p, y -> y.all(p));
