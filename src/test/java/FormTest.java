@@ -23,7 +23,14 @@ public final class FormTest {
         "int forget()", "int fits()", "int who(int)", "int mark(int,int)", "int keep(int)", "int back(int)",
         "int count(int)", "long trace()");
     private static final Set<String> CONSTANTS = Set.of("BAD=-1", "STATE=-2", "FULL=-3", "NONE=-9", "NO=-1000000");
+    private static final Path MAIN = Path.of("src/main/java/PavedBan.java");
     private static final int LONGEST_METHOD = 60;
+    /** What a static field may be (rule 5). */
+    private static final Set<Class<?>> CONSTANT_TYPES = Set.of(int.class, long.class, boolean.class, char.class, String.class,
+        int[].class, long[].class, char[].class, byte[].class);
+    /** What may be asked of the library's classes (rule 4). */
+    private static final Pattern LIBRARY = Pattern.compile("(Math|Integer|Long)\\.\\w+(?<!Exact)|System\\.arraycopy"
+        + "|Arrays\\.(copyOf|copyOfRange|fill)|List\\.of");
 
     private static int wrong = 0;
 
@@ -63,6 +70,21 @@ public final class FormTest {
             "the constructor is another");
     }
 
+    /** Every line of the document's face stands in the file as it stands there, the names of arguments too. */
+    private static void faceAsItStands() throws IOException {
+        String doc = Files.readString(Path.of("../shared/DOC.md"));
+        Matcher block = Pattern.compile("(?s)```java\n(.*?)```").matcher(doc);
+        hold(block.find(), "the document shows no face");
+        Set<String> lines = new TreeSet<>(Files.readAllLines(MAIN));
+        int told = 0;
+        for (String line : block.group(1).split("\n")) {
+            String due = line.endsWith(");") ? line.replace(");", ") {") : line;
+            hold(lines.contains(due), "the file does not have '" + due + "'");
+            told += line.contains("public") ? 1 : 0;
+        }
+        hold(told == 33, "the document's face has " + told + " lines");
+    }
+
     private static void inside() {
         Set<String> names = FACE.stream().map(s -> s.replaceAll(".* |\\(.*", "")).collect(Collectors.toSet());
         Class<?>[] classes = Arrays.copyOf(PavedBan.class.getDeclaredClasses(), PavedBan.class.getDeclaredClasses().length + 1);
@@ -74,6 +96,7 @@ public final class FormTest {
             for (Field f : c.getDeclaredFields()) {
                 boolean isStatic = Modifier.isStatic(f.getModifiers());
                 hold(!isStatic || Modifier.isFinal(f.getModifiers()), f + " is static and not final");
+                hold(!isStatic || CONSTANT_TYPES.contains(f.getType()), f + " is static, and no constant");
                 fields += isStatic ? 0 : 1;
             }
             hold(fields <= 20, c + " has " + fields + " fields");
@@ -86,7 +109,7 @@ public final class FormTest {
     }
 
     private static void source() throws IOException {
-        String whole = Files.readString(Path.of("src/main/java/PavedBan.java"));
+        String whole = Files.readString(MAIN);
         hold(whole.chars().allMatch(c -> c == '\n' || c >= 32 && c < 127), "the file has other signs than ASCII's");
         String code = whole.replaceAll("(?s)/\\*.*?\\*/", "").replaceAll("//[^\n]*", "").replaceAll("\"[^\"\n]*\"", "\"\"");
         String banned = "\\b(throw|throws|try|catch|synchronized|assert|protected|package|yield|var|transient|volatile|native"
@@ -98,6 +121,11 @@ public final class FormTest {
         m = Pattern.compile("import ([^;]*);").matcher(code);
         while (m.find()) {
             hold(Set.of("java.util.Arrays", "java.util.ArrayList", "java.util.List").contains(m.group(1)), "imports " + m.group(1));
+        }
+        Set<String> own = Arrays.stream(PavedBan.class.getDeclaredClasses()).map(Class::getSimpleName).collect(Collectors.toSet());
+        m = Pattern.compile("\\b([A-Z]\\w*)\\.\\w+(?=\\()").matcher(code);
+        while (m.find()) {
+            hold(own.contains(m.group(1)) || LIBRARY.matcher(m.group()).matches(), "the file asks " + m.group());
         }
         methodLengths(whole.split("\n"));
     }
@@ -181,6 +209,7 @@ public final class FormTest {
 
     public static void main(String[] args) throws IllegalAccessException, IOException {
         face();
+        faceAsItStands();
         inside();
         source();
         objects();

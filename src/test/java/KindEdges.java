@@ -345,10 +345,11 @@ final class KindEdges {
         }
         Check.due("the 512th", y.town(), 0);
         PavedBan z = Check.of("piece 0 1 1;piece 0 1 2;family 0 1 1;");
-        for (int call = 6; call < 512; call += 2) {
+        for (int call = 6; call < 510; call += 2) {
             Check.due("image", z.keep(call / 2 % 2), call == 6 ? 0 : 1);
             Check.due("owner", z.pave(1, 0), call == 6 ? Check.NONE : 0);
         }
+        Check.due("the 511th", z.back(0), 1);
         Check.due("the 512th", z.all(-1), Check.NONE);
     }
 }
